@@ -1375,7 +1375,6 @@ public final class MendedTube {
             n = number;
             a = bend;
             parted = false;
-            traced = 0;
         }
 
         /** Nothing begins any more behind a parting by 0. */

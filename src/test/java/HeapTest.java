@@ -75,10 +75,18 @@ public final class HeapTest {
         for (int l = 0; l < 5; l++) DUE.is("29 of " + l, mates[l], x.mate(l));
         DUE.is("29 no LENS", -1, x.mate(5));
         DUE.is("29 no LENS", -1, x.mate(-1));
+        x.let(3, 0);
+        DUE.is("29 asked first", -3, x.mate(0));
+        DUE.is("28 none MENDED any more", 0, x.pairs());
+        x = Due.pushing(1, 1, 1, 1, 1, 1, 1, 1, 1);
+        x.let(3, 1);
+        DUE.is("29 of nine", 6, x.mate(7));
+        DUE.is("29 the ninth", -3, x.mate(8));
+        DUE.is("28 of nine", 4, x.pairs());
         int[] bends = {0, 1, -2, 3, 0, 4};
         x = new MendedTube();
         for (int b : bends) x.lens(2, b, 0, 1);
-        for (int limit = 0; limit < 40; limit++) {
+        for (int limit = 39; limit >= 0; limit--) {
             x.let(3, limit);
             int most = -1;
             int first = 0;
@@ -151,10 +159,54 @@ public final class HeapTest {
         DUE.is("31 none may push, so none is turned", 4, x.turned(1));
         Due.tell(x, "twin if eye = 1 more 3;");
         DUE.is("30 THE RULES ask by the EYE of the YEAR", 3, x.years());
-        x.turn(0, 0);
+        x = Due.pushing(2, 3);
+        x.fit(0, 0);
+        x.fit(1, 2);
+        x.let(3, 4);
+        DUE.is("30 6 - 6, then EYE 1", 6, x.years());
+        int[] ways = twoThatPush(6);
+        for (int year = 1; year < 6; year++) DUE.is("31 YEAR " + year, ways[year], x.turned(year));
+        x = Due.pushing(9, 9, 9, 9);
+        for (int l = 0; l < 4; l++) x.fit(l, 2 * l % 4 + 1);
+        x.let(3, 1);
+        DUE.is("30 full", 3, x.years());
+        DUE.is("31 full", 4, x.turned(1));
+        x = Due.pushing(9, 9);
+        x.fit(0, 0);
+        x.fit(1, 1);
+        x.let(3, 3);
         x.grind(0, 2, 0);
         x.grind(1, 2, 0);
         DUE.is("31 the least PLACE", 0, x.turned(2));
+    }
+
+    /** LENSES that push by 2 (TURN 0 now) and by 3 (TURN 2): all ways are tried, the first of the longest is answered. */
+    private static int[] twoThatPush(int years) {
+        int[] push = {1, 0, -1, 0};
+        int all = 1;
+        for (int year = 1; year < years; year++) all *= 3;
+        for (int way = 0; way < all; way++) {
+            int[] turned = new int[years];
+            int left = way;
+            for (int year = years - 1; year > 0; year--) {
+                turned[year] = left % 3;
+                left /= 3;
+            }
+            int[] turns = {0, 2};
+            boolean lasts = true;
+            for (int year = 0; year < years; year++) {
+                if (year > 0 && turned[year] < 2) turns[turned[year]]++;
+                int a = 2 * push[turns[0] % 4];
+                int b = 3 * push[turns[1] % 4];
+                int slope = a + b;
+                int height = 2 * a + b;
+                int seen = height + slope - year * height;
+                lasts &= Math.abs(seen) + Math.abs(1 - year) <= 4;
+            }
+            for (int year = 1; year < years; year++) if (turned[year] == 2) turned[year] = 4;
+            if (lasts) return turned;
+        }
+        return new int[years];
     }
 
     private static void promises32And33Game() {
@@ -183,6 +235,26 @@ public final class HeapTest {
         x.fit(0, 1);
         DUE.is("33 the one LENS left", 21, x.play(1));
         DUE.is("32 one LENS is left", 1, x.game(3));
+        x.grind(2, 2, 9);
+        x.turn(0, 0);
+        x.turn(1, 0);
+        DUE.is("32 the LENS that is left can't mend it", 0, x.game(3));
+        x.take(1);
+        x.take(0);
+        DUE.is("33 those taken out can be put again", 1, x.play(1));
+        x = Due.pushing(0, 2);
+        x.let(3, 1);
+        DUE.is("32 no LENS twice", 1, x.game(2));
+        DUE.is("33 no LENS twice", 11, x.play(2));
+        x = Due.pushing(2, 3);
+        x.let(3, 1);
+        x.fit(0, 0);
+        DUE.is("33 by TURN 2: 6 - 6", 12, x.play(1));
+        x = Due.pushing(9, 8, 7, 6, 5, 4, 3, 2, 1);
+        x.let(3, 1);
+        x.fit(8, 2);
+        DUE.is("32 none of nine mends 4: 3a + 2b", 0, x.game(1));
+        DUE.is("33 none of nine mends 3", 0, x.play(1));
         x = Due.pushing(0, 0, 0, 0, 9);
         x.let(3, 1);
         for (int l = 0; l < 3; l++) x.fit(l, 0);

@@ -201,6 +201,9 @@ public final class HostTest {
         act(x, 1, 7, -24, 60, 11, 10);
         act(x, 2, 7, -3, 61, 40, 12, 10);
         act(x, 3, 7, -22, 13, 60, 11, 10);
+        x.remake(2, 3);
+        x.grind(2, 1, 3);
+        act(x, 3, 7, 19, 51, 13, 30, 11, 50, 10, 12);
         x.grind(2, 1, 1);
         x.remake(2, 1);
         act(x, 2, Integer.MIN_VALUE, Integer.MIN_VALUE, 12);

@@ -40,7 +40,7 @@ public final class KeptTest {
         x.lens(1, 1, 1, 1);
         x.rules();
         x.forget();
-        x.report(0, 1);
+        x.report(2, 1);
         x.report(0, 1);
         x.seed(5);
     }

@@ -62,6 +62,9 @@ public final class LotTest {
         x.report(2, 1);
         DUE.is("37 two PLACES without a LENS", -3, x.liar());
         DUE.is("37 nothing changes", 3, x.many(3));
+        for (int r = 3; r < 6; r++) x.report(0, 0);
+        DUE.is("37 six REPORTS", -3, x.liar());
+        DUE.is("36 six REPORTS", 0, x.span(0));
         x = new MendedTube();
         x.report(3, 1);
         DUE.is("37 the one REPORT", 0, x.liar());

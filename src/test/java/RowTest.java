@@ -50,6 +50,16 @@ public final class RowTest {
         DUE.is("44 of an empty TUBE", 0, x.judge());
     }
 
+    private static void promises41To44Full() {
+        MendedTube x = Due.pushing(1, 2, 3, 4);
+        for (int l = 0; l < 4; l++) x.fit(l, 0);
+        DUE.is("41 full", 6, x.prove(-9));
+        int[] heights = {-9, -8, -5, 1, 11, 21};
+        for (int k = 0; k < 6; k++) DUE.is("42 full, ROW " + k, heights[k], x.row(k, 1));
+        DUE.is("42 none behind", -9, x.row(6, 1));
+        DUE.is("44 full", 0, x.judge());
+    }
+
     private static void promise44Judge() {
         MendedTube x = two();
         for (int height = -9; height <= 9; height += 9) {
@@ -94,6 +104,7 @@ public final class RowTest {
 
     public static void main(String[] args) {
         promises41To43Rows();
+        promises41To44Full();
         promise44Judge();
         DUE.end();
     }

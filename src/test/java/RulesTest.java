@@ -38,6 +38,13 @@ public final class RulesTest {
 
     private static void promise9Faults() {
         fault("lens", 4);
+        fault("lensz flat;", 0);
+        fault(" ".repeat(196) + "lens", 200);
+        fault(" ".repeat(197) + "len", 197);
+        fault(" ".repeat(199) + "1", 199);
+        fault(";".repeat(200), 0);
+        fault("lens if " + "not ".repeat(48), 200);
+        fault("lens if " + "(".repeat(192), 11);
         fault("lens   ", 7);
         fault("x flat;", 0);
         fault("lenses flat;", 0);
@@ -90,6 +97,8 @@ public final class RulesTest {
         strength("warm more 0099;", 9);
         strength("warm more4;", 5);
         strength("  lens  more  4  ;  ", 5);
+        strength("warm if 1=2" + " or 1=2".repeat(21) + " or 1=1 and 1=1 or 1=2 flat;", 3);
+        strength("warm if 1=1" + " and 1=1".repeat(20) + " and 1=2 flat;", 1);
         strength("twin flat;", 1);
         strength("dusty flat;", 1);
         String[] hold = {"heat=3", "gap=2", "eye<0", "bend<0", "number=1", "0<1", "3 > 2", "9999=9999", "bend>eye",
@@ -97,7 +106,7 @@ public final class RulesTest {
             "not 1=2 or 1=1", "not(not(not(1=2)))", "1=2 or 1=2 or 1=1", "1=1 and 1=1 and 1=1", "heat>gap"};
         for (String condition : hold) strength("warm if " + condition + " flat;", 3);
         String[] hold0 = {"heat=4", "gap=1", "eye>0", "bend=2", "number=0", "1<1", "3>3", "not 1=1", "not not not 1=1",
-            "not 1=1 and 1=2", "(1=1 or 1=1)and 1=2", "1=2 and 1=1 or 1=2", "not(1=2 or 1=1)", "1=1 and 1=1 and 1=2"};
+            "not 1=1 and 1=2", "(1=1 or 1=1)and 1=2", "1=2 and 1=1 or 1=2", "1=2 or 1=1 and 1=2", "not(1=2 or 1=1)", "1=1 and 1=1 and 1=2"};
         for (String condition : hold0) strength("warm if " + condition + " flat;", 1);
     }
 

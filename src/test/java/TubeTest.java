@@ -44,6 +44,16 @@ public final class TubeTest {
         rays(x, "EYE 3", -2, -3);
         x.let(0, 1);
         rays(x, "HEAT 1", -2, -2);
+        x.turn(0, 2);
+        x.let(0, 0);
+        DUE.is("11 SHIFT, asked first", 2, x.shift());
+        x.let(2, 0);
+        DUE.is("12 BLUR, asked first", 1, x.blur());
+        x.let(1, 2);
+        DUE.is("13 WRONG, asked first", 11, x.wrong());
+        x.let(3, 4);
+        x.turn(0, 1);
+        DUE.is("14 MENDED, asked first", 1, x.mended());
         DUE.is("10 too high", -1, x.seen(10));
         DUE.is("10 too low", -1, x.seen(-10));
     }
@@ -145,6 +155,23 @@ public final class TubeTest {
         DUE.is("22 nothing changes", 0, x.place(0, 0));
     }
 
+    /** Of four that only push SEEN of 0 is 5a + 4b + 3c + 2d. */
+    private static void promises21And22Full() {
+        MendedTube x = Due.pushing(2, 0, 1, 9);
+        for (int l = 0; l < 4; l++) x.fit(l, 0);
+        DUE.is("21 full: 31 becomes 5", 32, x.fix());
+        DUE.is("22 full: 31 becomes 29, as by 0 and 2", 1, x.change());
+        x = Due.pushing(9, 0, 1, 2);
+        for (int l = 0; l < 4; l++) x.fit(l, 0);
+        DUE.is("22 full: 52 becomes 31", 3, x.change());
+        x.turn(0, 1);
+        x.turn(3, 2);
+        x.exchange(0, 1);
+        DUE.is("22 full: 3 - 4 becomes 4 - 4", 12, x.change());
+        x.grind(3, 2, 4);
+        DUE.is("22 full: 3 - 8 becomes 5 - 8", 2, x.change());
+    }
+
     /** STRENGTH s alone, GAP 1, EYE 0: WRONG is the size of 1 - 2s. */
     private static void promise23HeatFor() {
         MendedTube x = new MendedTube();
@@ -189,6 +216,7 @@ public final class TubeTest {
         promises16To20Places();
         promise21Fix();
         promise22Change();
+        promises21And22Full();
         promise23HeatFor();
         promise24Eyes();
         DUE.end();
