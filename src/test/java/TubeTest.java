@@ -44,11 +44,16 @@ public final class TubeTest {
         rays(x, "EYE 3", -2, -3);
         x.let(0, 1);
         rays(x, "HEAT 1", -2, -2);
-        x.turn(0, 2);
         x.let(0, 0);
-        DUE.is("11 SHIFT, asked first", 2, x.shift());
         x.let(2, 0);
+        x.turn(0, 2);
+        DUE.is("11 SHIFT, asked first", 4, x.shift());
+        x.let(2, -1);
         DUE.is("12 BLUR, asked first", 1, x.blur());
+        x.let(0, 1);
+        DUE.is("12 BLUR, asked first", 4, x.blur());
+        x.let(0, 0);
+        x.let(2, 0);
         x.let(1, 2);
         DUE.is("13 WRONG, asked first", 11, x.wrong());
         x.let(3, 4);
