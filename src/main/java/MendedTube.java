@@ -453,14 +453,14 @@ public final class MendedTube {
         if (s == null) return NOTHING;
         if (s.sort != BYTES) return OTHER_SORT;
         shine();
-        int least = Integer.MAX_VALUE;
-        int greatest = Integer.MIN_VALUE;
+        int least = 0;
+        int greatest = 0;
         for (int k = 0; k < n; k++) {
             if (!s.hasItem(i + k)) return OUTSIDE;
             if (!isSmall(s.items[i + k])) return STATE;
             int seen = light.seenOf(s.items[i + k]);
-            least = Math.min(least, seen);
-            greatest = Math.max(greatest, seen);
+            if (k == 0 || seen < least) least = seen;
+            if (k == 0 || seen > greatest) greatest = seen;
         }
         return greatest - least;
     }
@@ -843,18 +843,20 @@ public final class MendedTube {
 
         private void split() {
             int count = 0;
-            int i = 0;
-            while (i < length) {
-                int end = endOfWord(i);
-                if (bytes[i] != ' ') {
-                    words[count] = wordAt(i, end);
-                    starts[count] = i;
-                    count++;
-                }
-                i = end;
+            for (int i = 0; i < length; i++) {
+                if (bytes[i] == ' ' || isInWord(i)) continue;
+                words[count] = wordAt(i, endOfWord(i));
+                starts[count] = i;
+                count++;
             }
             words[count] = END;
             starts[count] = length;
+        }
+
+        /** Whether a NAME or NUMBER that began ahead of a byte goes on with it. */
+        private boolean isInWord(int i) {
+            if (i < 1) return false;
+            return isLetter(bytes[i - 1]) && isLetter(bytes[i]) || isDigit(bytes[i - 1]) && isDigit(bytes[i]);
         }
 
         private int endOfWord(int from) {
