@@ -8,7 +8,7 @@ public final class HeapTest {
             DUE.is("25 no LENSES", -3, x.least(n));
             DUE.is("26 no LENSES", -3, x.pick(n, 0));
         }
-        x = Due.pushing(4, 3, -2);
+        x = Cases.pushing(4, 3, -2);
         x.fit(1, 2);
         for (int n : new int[] {0, 4, -1, Integer.MAX_VALUE}) {
             DUE.is("25 n", -1, x.least(n));
@@ -32,13 +32,13 @@ public final class HeapTest {
         x.let(2, 1);
         DUE.is("25 by EYE", 0, x.least(1));
         DUE.is("26 by EYE", 1, x.pick(1, 0));
-        DUE.is("25 too few", -3, Due.pushing(1, 2).least(3));
-        DUE.is("26 too few", -3, Due.pushing(1, 2).pick(3, 2));
+        DUE.is("25 too few", -3, Cases.pushing(1, 2).least(3));
+        DUE.is("26 too few", -3, Cases.pushing(1, 2).pick(3, 2));
         DUE.is("25 nothing changes", 1, x.many(2));
     }
 
     private static void promise27Good() {
-        MendedTube x = Due.pushing(2, 0);
+        MendedTube x = Cases.pushing(2, 0);
         for (int n : new int[] {0, 4, -1}) DUE.is("27 n", -1, x.good(n));
         DUE.is("27 none", 0, x.good(1));
         x.let(3, 1);
@@ -48,7 +48,7 @@ public final class HeapTest {
         x.let(3, 999);
         DUE.is("27 all of 1", 8, x.good(1));
         DUE.is("27 all of 2", 32, x.good(2));
-        x = Due.pushing(1, 2, 3, 4, 5, 6, 7, 8, 9);
+        x = Cases.pushing(1, 2, 3, 4, 5, 6, 7, 8, 9);
         x.let(3, 999);
         DUE.is("27 all of 3", 9 * 8 * 7 * 64, x.good(3));
     }
@@ -66,7 +66,7 @@ public final class HeapTest {
         MendedTube x = new MendedTube();
         DUE.is("28 no LENSES", 0, x.pairs());
         DUE.is("29 no LENSES", -1, x.mate(0));
-        x = Due.pushing(1, 1, 1, 1, 1);
+        x = Cases.pushing(1, 1, 1, 1, 1);
         DUE.is("28 none MENDED", 0, x.pairs());
         DUE.is("29 none", -3, x.mate(0));
         x.let(3, 1);
@@ -78,7 +78,7 @@ public final class HeapTest {
         x.let(3, 0);
         DUE.is("29 asked first", -3, x.mate(0));
         DUE.is("28 none MENDED any more", 0, x.pairs());
-        x = Due.pushing(1, 1, 1, 1, 1, 1, 1, 1, 1);
+        x = Cases.pushing(1, 1, 1, 1, 1, 1, 1, 1, 1);
         x.let(3, 1);
         DUE.is("29 of nine", 6, x.mate(7));
         DUE.is("29 the ninth", -3, x.mate(8));
@@ -138,7 +138,7 @@ public final class HeapTest {
         DUE.is("30 9 at most", 21, x.years());
         DUE.is("31 YEAR 20", 4, x.turned(20));
         for (int year : new int[] {0, 21, -1, Integer.MIN_VALUE}) DUE.is("31 no such YEAR", -1, x.turned(year));
-        x = Due.pushing(1);
+        x = Cases.pushing(1);
         x.fit(0, 1);
         x.let(3, 2);
         DUE.is("30 one LENS", 4, x.years());
@@ -148,7 +148,7 @@ public final class HeapTest {
         DUE.is("31 not till then", -3, x.turned(4));
         DUE.is("30 nothing changes", 1, x.place(0, 1));
         DUE.is("30 nothing changes", 0, x.setting(2));
-        x = Due.pushing(9, 9);
+        x = Cases.pushing(9, 9);
         x.fit(0, 1);
         x.fit(1, 0);
         x.let(2, -2);
@@ -157,21 +157,21 @@ public final class HeapTest {
         x.turn(1, 1);
         DUE.is("30 two LENSES", 7, x.years());
         DUE.is("31 none may push, so none is turned", 4, x.turned(1));
-        Due.tell(x, "twin if eye = 1 more 3;");
+        Cases.tell(x, "twin if eye = 1 more 3;");
         DUE.is("30 THE RULES ask by the EYE of the YEAR", 3, x.years());
-        x = Due.pushing(2, 3);
+        x = Cases.pushing(2, 3);
         x.fit(0, 0);
         x.fit(1, 2);
         x.let(3, 4);
         DUE.is("30 6 - 6, then EYE 1", 6, x.years());
         int[] ways = twoThatPush(6);
         for (int year = 1; year < 6; year++) DUE.is("31 YEAR " + year, ways[year], x.turned(year));
-        x = Due.pushing(9, 9, 9, 9);
+        x = Cases.pushing(9, 9, 9, 9);
         for (int l = 0; l < 4; l++) x.fit(l, 2 * l % 4 + 1);
         x.let(3, 1);
         DUE.is("30 full", 3, x.years());
         DUE.is("31 full", 4, x.turned(1));
-        x = Due.pushing(9, 9);
+        x = Cases.pushing(9, 9);
         x.fit(0, 0);
         x.fit(1, 1);
         x.let(3, 3);
@@ -219,7 +219,7 @@ public final class HeapTest {
         x.let(3, 1);
         DUE.is("32 no LENS, MENDED", 1, x.game(3));
         DUE.is("33 no LENS", -3, x.play(3));
-        x = Due.pushing(2, 2, 2);
+        x = Cases.pushing(2, 2, 2);
         x.let(3, 1);
         DUE.is("32 by TURN 1", 1, x.game(1));
         DUE.is("33 by TURN 1", 1, x.play(1));
@@ -242,20 +242,20 @@ public final class HeapTest {
         x.take(1);
         x.take(0);
         DUE.is("33 those taken out can be put again", 1, x.play(1));
-        x = Due.pushing(0, 2);
+        x = Cases.pushing(0, 2);
         x.let(3, 1);
         DUE.is("32 no LENS twice", 1, x.game(2));
         DUE.is("33 no LENS twice", 11, x.play(2));
-        x = Due.pushing(2, 3);
+        x = Cases.pushing(2, 3);
         x.let(3, 1);
         x.fit(0, 0);
         DUE.is("33 by TURN 2: 6 - 6", 12, x.play(1));
-        x = Due.pushing(9, 8, 7, 6, 5, 4, 3, 2, 1);
+        x = Cases.pushing(9, 8, 7, 6, 5, 4, 3, 2, 1);
         x.let(3, 1);
         x.fit(8, 2);
         DUE.is("32 none of nine mends 4: 3a + 2b", 0, x.game(1));
         DUE.is("33 none of nine mends 3", 0, x.play(1));
-        x = Due.pushing(0, 0, 0, 0, 9);
+        x = Cases.pushing(0, 0, 0, 0, 9);
         x.let(3, 1);
         for (int l = 0; l < 3; l++) x.fit(l, 0);
         DUE.is("32 one PLACE is left", 1, x.game(2));

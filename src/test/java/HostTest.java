@@ -56,7 +56,7 @@ public final class HostTest {
     }
 
     private static void promise48Fits() {
-        MendedTube x = Due.pushing(1, 1, 1, 1, 1, 1);
+        MendedTube x = Cases.pushing(1, 1, 1, 1, 1, 1);
         for (int s : new int[] {-1, 4}) DUE.is("48 no SHEET", -1, x.fits(s, 0, 1));
         for (int n : new int[] {-1, 21}) DUE.is("48 n", -1, x.fits(0, 0, n));
         DUE.is("48 missing", -11, x.fits(0, 0, 1));
@@ -86,7 +86,7 @@ public final class HostTest {
     }
 
     private static void promise49Spread() {
-        MendedTube x = Due.pushing(3);
+        MendedTube x = Cases.pushing(3);
         x.fit(0, 0);
         for (int s : new int[] {-1, 4}) DUE.is("49 no SHEET", -1, x.spread(s, 0, 1));
         for (int n : new int[] {0, 21}) DUE.is("49 n", -1, x.spread(0, 0, n));
@@ -172,7 +172,7 @@ public final class HostTest {
 
     /** LENS 2 of BEND 5. */
     private static void promises52And53Acts() {
-        MendedTube x = Due.pushing(0, 0, 0);
+        MendedTube x = Cases.pushing(0, 0, 0);
         DUE.is("53 none yet", -3, x.trace(0));
         x.grind(2, 1, 5);
         x.shelf(2, 0, 2);
@@ -214,7 +214,7 @@ public final class HostTest {
         act(x, 0, -17, -15, 10);
         x.remake(2, 3);
         act(x, 3, 7, -15, 51, 13, 30, 11, 50, 10, 12);
-        Due.tell(x, "lens flat;");
+        Cases.tell(x, "lens flat;");
         act(x, 0, 7, 10, 50, 10);
         for (int act : new int[] {-1, 4}) nothing(x, 2, act);
         for (int shelf : new int[] {-1, 4, 0}) nothing(x, shelf, 0);
@@ -231,10 +231,10 @@ public final class HostTest {
     }
 
     private static void promise54Many() {
-        MendedTube x = Due.pushing(1, 1, 1);
+        MendedTube x = Cases.pushing(1, 1, 1);
         x.fit(0, 0);
         x.fit(1, 0);
-        Due.tell(x, "lens flat;");
+        Cases.tell(x, "lens flat;");
         for (int r = 0; r < 5; r++) x.report(0, 0);
         x.prove(0);
         x.feed(0, 6);

@@ -7,7 +7,7 @@ public final class KeptTest {
         x.lens(2, 3, 4, 50);
         x.lens(4, 1, -1, 60);
         for (int what = 0; what < 4; what++) x.let(what, 3);
-        Due.tell(x, "twin more 1;");
+        Cases.tell(x, "twin more 1;");
         x.fit(1, 2);
         x.fit(0, 1);
         x.report(1, 0);

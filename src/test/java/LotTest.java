@@ -36,7 +36,7 @@ public final class LotTest {
         spans("MENDED by LIMIT 1, without the LENS' own TILT and STRENGTH", x, 2, 10, 11);
         x.let(3, 7);
         spans("MENDED by LIMIT 7", x, 8, 7, 14);
-        Due.tell(x, "lens flat;");
+        Cases.tell(x, "lens flat;");
         spans("THE RULES do not change a stranger's LENS", x, 8, 7, 14);
         x.forget();
         x.report(0, 0);
@@ -71,7 +71,7 @@ public final class LotTest {
     }
 
     private static void promises38And39Draw() {
-        MendedTube x = Due.pushing(1, 1, 1, 1);
+        MendedTube x = Cases.pushing(1, 1, 1, 1);
         DUE.is("38 was", 1, x.seed(7));
         DUE.is("39 empty", -3, x.draw());
         DUE.is("38 z stays", 7, x.seed(Integer.MIN_VALUE));
@@ -80,7 +80,7 @@ public final class LotTest {
         int z = 1;
         int[] turns = {3, 3, 3, 3};
         for (int places = 4; places >= 1; places--) {
-            for (int i = 0; i < 40; i++) {
+            for (int i = 0; i < 30; i++) {
                 z = z * 1103515245 + 12345;
                 int p = (z >>> 16) % places;
                 turns[p] = (turns[p] + 1) % 4;
@@ -93,7 +93,7 @@ public final class LotTest {
     }
 
     private static void promise40Often() {
-        MendedTube x = Due.pushing(2);
+        MendedTube x = Cases.pushing(2);
         x.fit(0, 0);
         DUE.is("40 never", 0, x.often(60));
         x.let(3, 1);

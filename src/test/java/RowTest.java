@@ -51,7 +51,7 @@ public final class RowTest {
     }
 
     private static void promises41To44Full() {
-        MendedTube x = Due.pushing(1, 2, 3, 4);
+        MendedTube x = Cases.pushing(1, 2, 3, 4);
         for (int l = 0; l < 4; l++) x.fit(l, 0);
         DUE.is("41 full", 6, x.prove(-9));
         int[] heights = {-9, -8, -5, 1, 11, 21};

@@ -29,8 +29,8 @@ public final class RulesTest {
     private static void fault(String text, int due) {
         MendedTube x = new MendedTube();
         x.lens(2, 5, 0, 1);
-        DUE.is("9 ahead", 1, Due.tell(x, "warm less 1;"));
-        DUE.is("9 FAULT of \"" + text + "\"", -100 - due, Due.tell(x, text));
+        DUE.is("9 ahead", 1, Cases.tell(x, "warm less 1;"));
+        DUE.is("9 FAULT of \"" + text + "\"", -100 - due, Cases.tell(x, text));
         DUE.is("9 used up", 0, x.many(5));
         DUE.is("9 THE RULES stay", 4, x.lensOf(0, 4));
         DUE.is("9 so many stay", 1, x.many(1));
@@ -83,7 +83,7 @@ public final class RulesTest {
         x.let(0, 3);
         x.let(1, 2);
         x.let(2, -4);
-        DUE.is("9 RULES of \"" + text + "\"", 1, Due.tell(x, text));
+        DUE.is("9 RULES of \"" + text + "\"", 1, Cases.tell(x, text));
         DUE.is("9 STRENGTH by \"" + text + "\"", due, x.lensOf(1, 4));
     }
 
@@ -118,19 +118,19 @@ public final class RulesTest {
         int[] flat = {0, 0, -1, 0, 0};
         String[] under = {"12345", "1", "23", "3", "45", "5"};
         for (int named = 0; named < 6; named++) {
-            DUE.is("9 how many", 1, Due.tell(x, names[named] + " flat;"));
+            DUE.is("9 how many", 1, Cases.tell(x, names[named] + " flat;"));
             for (int kind = 1; kind <= 5; kind++) {
                 boolean is = under[named].indexOf((char) ('0' + kind)) >= 0;
                 DUE.is("9 of KIND " + kind + " by " + names[named], is ? flat[kind - 1] : plain[kind - 1], x.lensOf(kind - 1, 4));
             }
         }
-        DUE.is("9 three", 3, Due.tell(x, "twin if heat > 0 flat;twin more 1;lens more 2;"));
+        DUE.is("9 three", 3, Cases.tell(x, "twin if heat > 0 flat;twin more 1;lens more 2;"));
         DUE.is("9 many", 3, x.many(1));
         DUE.is("9 the first that holds", 6, x.lensOf(3, 4));
         DUE.is("9 the first above it", 2, x.lensOf(0, 4));
         x.let(0, 1);
         DUE.is("9 the first that holds", 0, x.lensOf(3, 4));
-        DUE.is("9 eight", 8, Due.tell(x, "lens flat;lens flat;lens flat;lens flat;lens flat;lens flat;lens flat;lens flat;"));
+        DUE.is("9 eight", 8, Cases.tell(x, "lens flat;lens flat;lens flat;lens flat;lens flat;lens flat;lens flat;lens flat;"));
         DUE.is("9 in place of all", 0, x.rules());
         DUE.is("9 none now", 4, x.lensOf(3, 4));
     }

@@ -64,7 +64,7 @@ public final class TubeTest {
     }
 
     private static void promise15Fit() {
-        MendedTube x = Due.pushing(1, 1, 1, 1, 1);
+        MendedTube x = Cases.pushing(1, 1, 1, 1, 1);
         DUE.is("15 no LENS", -1, x.fit(5, 0));
         DUE.is("15 no LENS", -1, x.fit(-1, 0));
         DUE.is("15 no TURN", -1, x.fit(0, 4));
@@ -123,7 +123,7 @@ public final class TubeTest {
 
     /** Of two that only push, by a and b, SEEN of 0 is 3a + 2b; of three 4a + 3b + 2c; BLUR is 1. */
     private static void promise21Fix() {
-        MendedTube x = Due.pushing(2, 2);
+        MendedTube x = Cases.pushing(2, 2);
         DUE.is("21 empty", -3, x.fix());
         x.fit(0, 0);
         x.fit(1, 0);
@@ -142,19 +142,19 @@ public final class TubeTest {
     }
 
     private static void promise22Change() {
-        MendedTube x = Due.pushing(-3, 2);
+        MendedTube x = Cases.pushing(-3, 2);
         x.fit(0, 0);
         DUE.is("22 one LENS", -3, x.change());
         x.fit(1, 0);
         DUE.is("22 both", 1, x.change());
         x.exchange(0, 1);
         DUE.is("22 least now", -3, x.change());
-        x = Due.pushing(3, 2, 1);
+        x = Cases.pushing(3, 2, 1);
         for (int l = 0; l < 3; l++) x.fit(l, 0);
         DUE.is("22 the ends", 2, x.change());
         x.turn(0, 1);
         DUE.is("22 with their TURNS", 12, x.change());
-        x = Due.pushing(7, -1, -9);
+        x = Cases.pushing(7, -1, -9);
         for (int l = 0; l < 3; l++) x.fit(l, 0);
         DUE.is("22 as good as 1 and 2", 1, x.change());
         DUE.is("22 nothing changes", 0, x.place(0, 0));
@@ -162,11 +162,11 @@ public final class TubeTest {
 
     /** Of four that only push SEEN of 0 is 5a + 4b + 3c + 2d. */
     private static void promises21And22Full() {
-        MendedTube x = Due.pushing(2, 0, 1, 9);
+        MendedTube x = Cases.pushing(2, 0, 1, 9);
         for (int l = 0; l < 4; l++) x.fit(l, 0);
         DUE.is("21 full: 31 becomes 5", 32, x.fix());
         DUE.is("22 full: 31 becomes 29, as by 0 and 2", 1, x.change());
-        x = Due.pushing(9, 0, 1, 2);
+        x = Cases.pushing(9, 0, 1, 2);
         for (int l = 0; l < 4; l++) x.fit(l, 0);
         DUE.is("22 full: 52 becomes 31", 3, x.change());
         x.turn(0, 1);
@@ -194,7 +194,7 @@ public final class TubeTest {
         x.let(3, 1);
         DUE.is("23 the greatest", 9, x.heatFor());
         x.let(3, 3);
-        Due.tell(x, "lens if heat = 2 more 9;");
+        Cases.tell(x, "lens if heat = 2 more 9;");
         DUE.is("23 by THE RULES", 2, x.heatFor());
         DUE.is("23 nothing changes", 9, x.setting(0));
     }
@@ -210,7 +210,7 @@ public final class TubeTest {
         x.lens(4, 1, 0, 1);
         x.fit(0, 0);
         DUE.is("24 EYE 3", 1, x.eyes());
-        Due.tell(x, "twin if eye = 3 flat;");
+        Cases.tell(x, "twin if eye = 3 flat;");
         DUE.is("24 by THE RULES", 0, x.eyes());
         DUE.is("24 nothing changes", 0, x.setting(2));
     }
